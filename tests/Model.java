@@ -586,8 +586,11 @@ final class Model {
     return NONE;
   }
 
-  int walk(int what) {
-    if (what < 0 || what > 4) return NONE;
+  int walk(int what) { return what < 0 || what > 4 ? NONE : walks()[what]; }
+
+  /** All five answers of THE WALK. */
+  int[] walks() {
+    int[] tooMany = {NONE, NONE, NONE, NONE, NONE};
     Map<String, Integer> far = new HashMap<>();
     Map<String, Set<String>> next = new HashMap<>();
     ArrayDeque<All> queue = new ArrayDeque<>();
@@ -597,7 +600,7 @@ final class Model {
     while (!queue.isEmpty()) {
       All s = queue.remove();
       String key = s.key();
-      if (s.row.size() > 24 || far.size() > 250) return NONE;
+      if (s.row.size() > 24 || far.size() > 250) return tooMany;
       if (s.row.isEmpty()) {
         calm++;
         boolean some = false;
@@ -615,7 +618,6 @@ final class Model {
       }
       next.put(key, to);
     }
-    if (what < 4) return new int[] {far.size(), calm, missing, fewest}[what];
     // A state from which nothing goes on is on no way back; take such away as long as there are any.
     Set<String> left = new HashSet<>(next.keySet());
     boolean changed = true;
@@ -627,7 +629,7 @@ final class Model {
         if (!goesOn) { left.remove(s); changed = true; }
       }
     }
-    return left.isEmpty() ? 0 : 1;
+    return new int[] {far.size(), calm, missing, fewest, left.isEmpty() ? 0 : 1};
   }
 
   int where(int line, int what) {

@@ -143,6 +143,24 @@ public final class PromisesTest {
     due(3, "HINT stays", x.node(0, 1, 5), 1);
     due(3, "PROGRAM stays", x.program(4, 0), 1);
     due(3, "TICK stays", x.look(5), 0);
+    // A MISS alone, all TOKENS at HOME, no MESSAGE: what CPU 5 asked was DROPPED.
+    x = fresh();
+    x.set(0, 6);
+    x.set(4, 1);
+    for (int c = 0; c < 5; c++) x.load(c, c);
+    x.tick(1);
+    x.load(5, 5);
+    quiet(x);
+    for (int c = 0; c < 5; c++) x.evict(c, c);
+    quiet(x);
+    due(3, "no MESSAGE", x.look(6), 0);
+    for (int l = 0; l < 8; l++) due(3, "all at HOME", x.node(HOME, l, 0), 8);
+    due(3, "n in a MISS", x.set(0, 6), false);
+    due(3, "t in a MISS", x.set(1, 8), false);
+    x.calm(2);
+    x.evict(5, 5);
+    quiet(x);
+    due(3, "n then", x.set(0, 6), true);
     // Less ROOM evicts nothing.
     x = fresh();
     for (int l = 0; l < 4; l++) own(x, 0, l, l);
@@ -486,6 +504,23 @@ public final class PromisesTest {
     x.deliver(k);
     due(8, "nothing", x.look(6), k);
     has(9, x, HOME, 3, 1, 0, 1, 0);
+    // one TOKEN, OWNER: it goes, with DATA
+    CountedTokens y = fresh();
+    y.set(0, 2);
+    y.set(1, 2);
+    own(y, 0, 0, 44);
+    y.load(1, 0);
+    quiet(y);
+    y.evict(1, 0);
+    quiet(y);
+    has(9, y, 0, 0, 1, 1, 1, 44);
+    y.set(4, 1);
+    y.load(1, 0);
+    y.tick(3);
+    for (int i = 0; i < y.look(6); i++) if (y.message(i, 2) == 4 && y.message(i, 1) == 0) k = i;
+    due(9, "for good to 0", y.deliver(k), 4);
+    has(9, y, 0, 0, 0, 0, 0, NONE);
+    message(9, y, y.look(6) - 1, 0, 1, 3, 0, 1, 1, 44, 0, 0);
     // one TOKEN, not OWNER: stays
     x.deliver(last);
     due(9, "ended", x.look(9), 1);
@@ -588,7 +623,11 @@ public final class PromisesTest {
     bad(0, ";", 1, 0);
     bad(0, "7", 1, 0);
     bad(0, "Load 1;", 1, 0);
-    bad(0, "loads 1;", 1, 0);
+    for (String letter : new String[] {"a", "s", "z", "A", "Z"}) bad(0, "load" + letter + " 1;", 1, 0);
+    for (String other : new String[] {"@", "[", "`", "{", "/", ":", "\t"}) {
+      bad(0, "load" + other + " 1;", 1, 4);
+      bad(0, "load 1" + other + ";", 1, 6);
+    }
     bad(0, "load 1;\tload 1;", 1, 7);
     bad(0, "load 1; evict 1;", 1, 8);
     bad(0, "load 1; tick 1;", 1, 8);
@@ -933,7 +972,47 @@ public final class PromisesTest {
     // both asked, one answered, both answered, .. : (asks, TOKENS under way, there): 6 STATES
     due(24, "walk(0)", x.walk(0), 6);
     due(24, "walk(3)", x.walk(3), 4);
-    // 25 MESSAGES
+    // 250 STATES, 251
+    x = fresh();
+    x.set(0, 2);
+    x.set(3, 1);
+    x.set(4, 1);
+    x.load(0, 1);
+    x.deliver(0);
+    x.tick(3);
+    x.deliver(0);
+    int[] most = {250, 4, 0, 7, 0};
+    for (int w = 0; w < 5; w++) due(24, "walk(" + w + ") of 250", x.walk(w), most[w]);
+    x = fresh();
+    x.set(0, 2);
+    x.set(3, 1);
+    x.set(4, 1);
+    x.set(1, 4);
+    x.set(2, 3);
+    x.load(1, 0);
+    x.load(0, 0);
+    x.tick(2);
+    for (int w = 0; w < 5; w++) due(24, "walk(" + w + ") of 251", x.walk(w), NONE);
+    // 24 MESSAGES, 25: two recalls, and one asks HOME, which has none of it, again and again
+    x = fresh();
+    x.set(0, 2);
+    x.set(3, 1);
+    x.set(4, 1);
+    own(x, 1, 3, 1);
+    x.store(0, 0, 1);
+    x.tick(3);
+    for (int i = 0; i < x.look(6);) if (x.message(i, 2) != 5) x.deliver(i); else i++;
+    due(24, "the recalls", x.look(6), 2);
+    x.load(0, 3);
+    x.tick(21);
+    due(24, "24 on their way", x.look(6), 24);
+    int[] alike = {92, 1, 1, 24, 0};
+    for (int w = 0; w < 5; w++) due(24, "walk(" + w + ") of 24", x.walk(w), alike[w]);
+    x.tick(1);
+    for (int w = 0; w < 5; w++) due(24, "walk(" + w + ") of 25", x.walk(w), NONE);
+    x.deliver(24);
+    for (int w = 0; w < 5; w++) due(24, "walk(" + w + ") of 24", x.walk(w), alike[w]);
+    // more of both
     x = fresh();
     x.set(0, 6);
     for (int c = 0; c < 4; c++) x.load(c, c);
@@ -960,8 +1039,10 @@ public final class PromisesTest {
     x.load(1, 0);
     x.deliver(0);
     due(23, "only for good", x.soon(1), NONE);
+    x.tick(1);
+    due(23, "only for good", x.soon(1), 60);
     x.set(4, 19);
-    due(23, "only for good", x.soon(1), 58);
+    due(23, "only for good", x.soon(1), 57);
   }
 
   private static void comeBack() {
@@ -1128,10 +1209,41 @@ public final class PromisesTest {
       due(32, "the TAPE is not in it", x.end(7), true);
       x.end(0);
     }
+    // what was counted and seen is in it, too
+    x = fresh();
+    x.set(0, 6);
+    x.set(4, 1);
+    own(x, 0, 0, 8);
+    x.add(0, 0, 1);
+    x.add(0, 0, 2);
+    for (int c = 0; c < 6; c++) x.store(c, 1 + c, 1);
+    x.tick(1);
+    int dropped = x.look(7);
+    int sent = x.flow(1, HOME, 0);
+    due(32, "DROPPED", dropped > 0, true);
+    x.image(true);
+    x.tick(1);
+    quiet(x);
+    for (int i = 0; i < 30; i++) x.load(0, 0);
+    x.image(false);
+    due(32, "DROPPED", x.look(7), dropped);
+    due(32, "SEEN", x.seen(0, NONE), 2);
+    due(32, "sent", x.flow(1, HOME, 0), sent);
+    for (int i = 0; i < 30; i++) x.evict(0, 0);
+    x.image(false);
+    due(32, "EVICTIONS", x.look(11), 0);
+    due(32, "trace", x.trace(0, 1), 6);
+    due(32, "SEEN", x.seen(0, 1), 9);
+    quiet(x);
+    for (int i = 0; i < 30; i++) x.add(0, 0, 7);
+    x.image(true);
+    x.image(false);
+    due(32, "SEEN", x.seen(0, 2), 11);
+    x = fresh();
     due(32, "taken anew", x.image(true), true);
     x.tick(1);
     x.image(false);
-    due(32, "TICK", x.look(5), 1);
+    due(32, "TICK", x.look(5), 0);
   }
 
   private static void look() {

@@ -46,8 +46,6 @@ public final class CountedTokens {
     private Machine kept;
     private Caches thought;
     private Walk walker;
-    // The WALK's answers are those of now, so that five questions of it cost one WALK.
-    private boolean walked;
 
     public CountedTokens() {
         now = new Machine();
@@ -61,7 +59,6 @@ public final class CountedTokens {
     }
 
     public boolean set(int what, int v) {
-        walked = false;
         switch (what) {
             case 0:
                 return now.caches.setCpus(v);
@@ -79,7 +76,6 @@ public final class CountedTokens {
     }
 
     public int load(int cpu, int line) {
-        walked = false;
         if (!now.caches.mayBegin(cpu, line, 0)) {
             return NONE - 1;
         }
@@ -87,7 +83,6 @@ public final class CountedTokens {
     }
 
     public int store(int cpu, int line, int v) {
-        walked = false;
         if (!now.caches.mayBegin(cpu, line, v)) {
             return NONE;
         }
@@ -95,7 +90,6 @@ public final class CountedTokens {
     }
 
     public int add(int cpu, int line, int v) {
-        walked = false;
         if (!now.caches.mayBegin(cpu, line, v)) {
             return NONE;
         }
@@ -103,7 +97,6 @@ public final class CountedTokens {
     }
 
     public boolean evict(int cpu, int line) {
-        walked = false;
         return now.caches.evictIfAllowed(cpu, line);
     }
 
@@ -111,7 +104,6 @@ public final class CountedTokens {
         if (k < 0 || k >= now.caches.messages) {
             return NONE;
         }
-        walked = false;
         return now.caches.deliverAt(k);
     }
 
@@ -119,7 +111,6 @@ public final class CountedTokens {
         if (n < 1 || n > 99 || !now.caches.hasTime(n)) {
             return NONE;
         }
-        walked = false;
         now.caches.ticks(n);
         return now.caches.tick;
     }
@@ -128,7 +119,6 @@ public final class CountedTokens {
         if (n < 1 || n > MOST_ROUNDS || !now.caches.hasTime(n)) {
             return NONE;
         }
-        walked = false;
         return now.caches.calmRounds(n);
     }
 
@@ -170,7 +160,6 @@ public final class CountedTokens {
         if (n < 1 || n > MOST_PLAN) {
             return NONE;
         }
-        walked = false;
         int taken = 0;
         for (int i = 0; i < n && now.script.planDone < now.script.planLines; i++) {
             if (now.runLine()) {
@@ -195,7 +184,6 @@ public final class CountedTokens {
         if (n < 1 || n > MOST_ROUNDS || order < 0 || order > 2 || !now.caches.hasTime(n)) {
             return NONE;
         }
-        walked = false;
         return now.goRounds(n, order);
     }
 
@@ -338,15 +326,14 @@ public final class CountedTokens {
         if (what < 0 || what > 4) {
             return NONE;
         }
-        if (!walked) {
-            prepareThought();
-            if (walker == null) {
-                walker = new Walk();
-            }
-            walker.explore(thought);
-            walked = true;
+        prepareThought();
+        if (walker == null) {
+            walker = new Walk();
         }
-        return walker == null ? NONE : walker.answers[what];
+        if (!walker.knows(thought)) {
+            walker.explore(thought);
+        }
+        return walker.answers[what];
     }
 
     public int where(int line, int what) {
@@ -461,7 +448,6 @@ public final class CountedTokens {
         if (kept == null) {
             return false;
         }
-        walked = false;
         now.become(kept);
         return true;
     }
@@ -1914,16 +1900,32 @@ public final class CountedTokens {
         private final int[] queue = new int[MOST_STATES];
         private int states;
         private int edgeCount;
+        private int cpus;
+        private int tokens;
+        private int room;
+        // The cells of CPUS that there are not never change.
         private int used;
         private boolean tooMany;
+
+        /** Whether the answers are those of these caches: five questions cost one WALK. */
+        boolean knows(Caches caches) {
+            sort(caches.row, caches.messages);
+            return states > 0
+                && caches.cpus == cpus
+                && caches.tokens == tokens
+                && caches.room == room
+                && isState(0, caches);
+        }
 
         /** Sets the answers; the caches that it is given are left in whatever STATE. */
         void explore(Caches caches) {
             states = 0;
             edgeCount = 0;
             tooMany = false;
-            // The cells of CPUS that there are not never change.
-            used = (caches.cpus + 1) * Caches.BLOCK;
+            cpus = caches.cpus;
+            tokens = caches.tokens;
+            room = caches.room;
+            used = (cpus + 1) * Caches.BLOCK;
             Arrays.fill(slots, 0);
             enter(caches, 0);
             for (int state = 0; state < states && state < MOST_STATES && !tooMany; state++) {
@@ -1932,7 +1934,7 @@ public final class CountedTokens {
             if (tooMany) {
                 Arrays.fill(answers, NONE);
             } else {
-                sumUp(caches.cpus);
+                sumUp();
             }
         }
 
@@ -2028,7 +2030,7 @@ public final class CountedTokens {
             return true;
         }
 
-        private void sumUp(int cpus) {
+        private void sumUp() {
             int calm = 0;
             int missing = 0;
             int fewest = NONE;
@@ -2037,7 +2039,7 @@ public final class CountedTokens {
                     calm++;
                     // The STATES stand by how many deliveries they are away: the first is nearest.
                     fewest = fewest == NONE ? deliveries[state] : fewest;
-                    missing += hasMiss(state, cpus) ? 1 : 0;
+                    missing += hasMiss(state) ? 1 : 0;
                 }
             }
             answers[0] = states;
@@ -2047,7 +2049,7 @@ public final class CountedTokens {
             answers[4] = canComeBack() ? 1 : 0;
         }
 
-        private boolean hasMiss(int state, int cpus) {
+        private boolean hasMiss(int state) {
             int at = state * SIZE + Caches.MISS;
             for (int cpu = 0; cpu < cpus; cpu++) {
                 if (cells[at + Caches.blockOf(cpu)] != 0) {
