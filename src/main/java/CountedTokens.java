@@ -1035,19 +1035,11 @@ public final class CountedTokens {
 
         // ---- MESSAGES that come
 
-        int deliverFirst(int many) {
+        /** So many times the first or the last, as long as there are MESSAGES: how many. */
+        int deliverMany(int many, boolean last) {
             int done = 0;
             while (done < many && messages > 0) {
-                deliverAt(0);
-                done++;
-            }
-            return done;
-        }
-
-        int deliverLast(int many) {
-            int done = 0;
-            while (done < many && messages > 0) {
-                deliverAt(messages - 1);
+                deliverAt(last ? messages - 1 : 0);
                 done++;
             }
             return done;
@@ -1583,9 +1575,9 @@ public final class CountedTokens {
                 case Act.EVICT:
                     return caches.evictIfAllowed(Act.cpu(act), first);
                 case Act.DELIVER:
-                    return caches.deliverFirst(first) > 0;
+                    return caches.deliverMany(first, false) > 0;
                 case Act.LAST:
-                    return caches.deliverLast(first) > 0;
+                    return caches.deliverMany(first, true) > 0;
                 case Act.TICK:
                     caches.ticks(first);
                     return true;
