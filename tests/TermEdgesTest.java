@@ -612,10 +612,10 @@ public final class TermEdgesTest {
   @Says(in = "T2", value = "1: the CPU of its HINT of that LINE, if there is one, HOME.")
   static void t2_policy1() {
     CountedTokens x = fresh();
-    own(x, 2, 0, 5);
+    own(x, 2, 4, 5);
     own(x, 2, 1, 5);
     x.set(3, 1);
-    x.load(0, 0);
+    x.load(0, 4);
     row(x, 12, 16);
     x.load(1, 3);
     row(x, 12, 16, 16);
@@ -643,13 +643,13 @@ public final class TermEdgesTest {
   static void t2_policy3() {
     CountedTokens x = fresh(5, 8);
     x.set(4, 1);
-    read(x, 3, 0);
-    read(x, 1, 0);
-    is("GROUP of 0", x.group(0, 0), 10);
+    read(x, 3, 5);
+    read(x, 1, 5);
+    is("GROUP of 2", x.group(2, 5), 10);
     x.set(3, 3);
-    x.load(0, 0);
+    x.load(2, 5);
     row(x, 11, 13, 16);
-    x.load(2, 7);
+    x.load(0, 7);
     row(x, 11, 13, 16, 16);
     x.tick(1);
     row(x, 11, 13, 16, 16, 11, 12, 13, 14, 16, 10, 11, 13, 14, 16);
