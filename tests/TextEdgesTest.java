@@ -164,6 +164,13 @@ public final class TextEdgesTest {
     bad(6, "again 1 { }", 1, 0);
     bad(6, "Tick 1;", 1, 0);
     bad(6, "ticktick 1;", 1, 0);
+    // however many letters stand ahead of it or behind it
+    for (int many = 1; many < 20; many++) {
+      bad(0, "x".repeat(many) + "load 1;", 1, 0);
+      bad(0, "load" + "x".repeat(many) + " 1;", 1, 0);
+      bad(0, "load".repeat(1 + many) + " 1;", 1, 0);
+      bad(6, "deliver".repeat(1 + many) + " 1;", 1, 0);
+    }
   }
 
   @Says(in = "T4", value = "digits as many as stand together NUMBERS of 1 to 4 digits or none")

@@ -1608,10 +1608,22 @@ public final class CountedTokens {
         static final int MOST_BYTES = 400;
         static final int DEEPEST = 3;
 
-        // Seven signs for each, in the order of their numbers, from 1 on.
-        static final int WIDTH = 7;
-        static final String KEYWORDS =
-            "load   store  add    rest   again  evict  deliverlast   tick   calm   go     policy ";
+        // Their letters, eight bits each, at the place of their number; no keyword has the number 0.
+        static final long[] KEYWORDS = {
+            0L,
+            0x6c6f6164L, // load
+            0x73746f7265L, // store
+            0x616464L, // add
+            0x72657374L, // rest
+            0x616761696eL, // again
+            0x6576696374L, // evict
+            0x64656c69766572L, // deliver
+            0x6c617374L, // last
+            0x7469636bL, // tick
+            0x63616c6dL, // calm
+            0x676fL, // go
+            0x706f6c696379L, // policy
+        };
 
         static final int END = 0;
         static final int WORD = 1;
@@ -1827,30 +1839,19 @@ public final class CountedTokens {
         }
 
         private void takeWord() {
+            long word = 0;
+            // Of a longer word eight letters stay, and no keyword has so many.
             while (next < length && isLetter(tape[next])) {
+                word = word << 8 | tape[next];
                 next++;
             }
             kind = NOTHING;
             for (int keyword = LOAD; keyword <= Act.POLICY; keyword++) {
-                if (isKeyword(keyword)) {
+                if (KEYWORDS[keyword] == word) {
                     kind = WORD;
                     value = keyword;
                 }
             }
-        }
-
-        private boolean isKeyword(int keyword) {
-            int letters = next - place;
-            if (letters > WIDTH) {
-                return false;
-            }
-            for (int i = 0; i < WIDTH; i++) {
-                int sign = i < letters ? tape[place + i] : ' ';
-                if (KEYWORDS.charAt((keyword - 1) * WIDTH + i) != sign) {
-                    return false;
-                }
-            }
-            return true;
         }
 
         private void takeDigits() {
